@@ -1,0 +1,143 @@
+/** Promise 16: how things would stand without one of the votes. */
+public final class BesideTest {
+    public static void main(String[] args) {
+        noSuchOnes();
+        withoutEachVote();
+        laterCallsCount();
+        whatCannotBeDone();
+        voteNotCarriedThere();
+        voteRefusedThenStaysOut();
+        endThere();
+        changesNothing();
+        Check.end();
+    }
+
+    private static void noSuchOnes() {
+        BuildingClub club = Check.club(1, 1);
+        Check.due("no vote yet", club.beside(0, 0), -1);
+        Check.vote(club, 1, "s30");
+        Check.due("a vote that was not carried", club.beside(0, 0), -1);
+        Check.vote(club, 3, "s30");
+        int[] votes = {-1, 1, Integer.MAX_VALUE, Integer.MIN_VALUE};
+        for (int k : votes) {
+            Check.due("beside(" + k + ", 0)", club.beside(k, 0), -1);
+        }
+        int[] others = {-1, 3, 9, 12, 22, Integer.MAX_VALUE, Integer.MIN_VALUE};
+        for (int what : others) {
+            Check.due("beside(0, " + what + ")", club.beside(0, what), -1);
+        }
+        Check.due("beside(0, 10)", club.beside(0, 10), 0);
+        Check.due("beside(0, 11)", club.beside(0, 11), 0);
+    }
+
+    private static void withoutEachVote() {
+        BuildingClub club = Check.club(1, 1);
+        club.pay(0, 1000);
+        club.pay(1, 900);
+        Check.vote(club, 3, "s30");
+        Check.vote(club, 3, "s50");
+        club.week(1);
+        Check.vote(club, 3, "s70;h10");
+        club.week(1);
+        Check.due("as it is", club.club(0), 100 + 140 - 10);
+        Check.due("without 0, 1 was in force all the same", club.beside(0, 0), 230);
+        Check.due("without 1: s30 in week 1", club.beside(1, 0), 60 + 140 - 10);
+        Check.due("without 2: s50 twice", club.beside(2, 0), 200);
+        Check.due("houses without 2", club.beside(2, 1), 0);
+        Check.due("houses without 1", club.beside(1, 1), 1);
+        Check.due("credit without 1", club.beside(1, 10), 900);
+        Check.due("credit of 1 without 2", club.beside(2, 11), 800);
+        Check.due("and without 0 again", club.beside(0, 11), 780);
+    }
+
+    private static void laterCallsCount() {
+        BuildingClub club = Check.club("s30", 100, 1);
+        Check.due("ahead of a week", club.beside(0, 10), 100);
+        club.week(1);
+        Check.due("behind a week", club.beside(0, 10), 80);
+        Check.due("and again", club.beside(0, 10), 80);
+        club.pay(0, 5);
+        club.member(3);
+        club.pay(1, 61);
+        club.week(1);
+        Check.due("behind two weeks", club.beside(0, 10), 65);
+        Check.due("a member who came later", club.beside(0, 11), 1);
+        Check.due("cash", club.beside(0, 0), 100);
+        Check.vote(club, 3, "h110;f0");
+        club.week(1);
+        Check.due("the later vote is done there", club.beside(0, 1), 1);
+        Check.due("cash there", club.beside(0, 0), 120 - 110);
+        Check.due("and not without it", club.beside(1, 1), 0);
+    }
+
+    private static void whatCannotBeDone() {
+        BuildingClub club = Check.club("h40;g2", 200, 1, 1);
+        club.week(1);
+        Check.due("seen", club.seen(0), true);
+        club.week(1);
+        Check.due("failed", club.fail(0), true);
+        Check.due("cash", club.club(0), 10);
+        Check.due("paid to the builder", club.club(1), 20);
+        Check.due("without the rules: no house", club.beside(0, 1), 0);
+        Check.due("nothing was seen, nothing failed", club.beside(0, 0), 80);
+        Check.due("credit", club.beside(0, 10), 160);
+        BuildingClub leaver = Check.club("h9999;s20", 800, 1, 1);
+        leaver.week(30);
+        Check.due("leave", leaver.leave(0), true);
+        leaver.pay(1, 100);
+        Check.due("as it is", leaver.look(0, 2), 0);
+        Check.due("there it has a house and stays", leaver.beside(0, 10), 800 - 15 * 20 - 15 * 30);
+    }
+
+    /** Number 0 has a house beside vote 0, so that it can't leave there. */
+    private static void voteNotCarriedThere() {
+        BuildingClub club = Check.club("h9999;s20", 1000, 3, 2);
+        club.week(6);
+        club.leave(0);
+        Check.due("carried by those who are in", Check.vote(club, 2, "s1"), 1);
+        club.week(1);
+        Check.due("credit of 1", club.look(1, 2), 1000 - 6 * 40 - 2);
+        Check.due("2 of 5 do not carry it there", club.beside(0, 11), 1000 - 7 * 40);
+        Check.due("nor did the other leave", club.beside(0, 10), 1000 - 6 * 60 - 90);
+        Check.due("without the later vote", club.beside(1, 11), 1000 - 7 * 40);
+    }
+
+    private static void voteRefusedThenStaysOut() {
+        BuildingClub club = Check.club(2, 2);
+        club.pay(0, 1000);
+        club.pay(1, 1000);
+        Check.due("not carried", Check.vote(club, 1, "s1"), -2);
+        Check.due("a payment that was refused", club.pay(0, 100001), false);
+        Check.due("carried", Check.vote(club, 3, "s30"), 0);
+        club.week(1);
+        Check.due("as at first", club.beside(0, 10), 960);
+        Check.due("calls that were done", club.count(6), 6);
+    }
+
+    private static void endThere() {
+        BuildingClub club = Check.club("s1;h9999", 0, 1);
+        Check.due("there is none", club.end(), -1);
+        Check.due("beside it there is one", club.beside(0, 2), 30);
+        Check.vote(club, 1, "s60");
+        Check.due("as it is", club.end(), 10);
+        Check.due("beside the first", club.beside(0, 2), 10);
+        Check.due("beside the second there is none", club.beside(1, 2), -1);
+    }
+
+    private static void changesNothing() {
+        BuildingClub club = Check.club("b1;h50;s30", 200, 1, 1);
+        club.bid(1, 20);
+        club.lot(1);
+        Check.feed(club, "s1");
+        long without = club.beside(0, 0);
+        Check.due("nothing yet", without, 0);
+        Check.due("the tape", club.count(7), 20);
+        Check.due("calls", club.count(6), 7);
+        Check.due("the bid", club.look(1, 9), 20);
+        Check.due("rules", club.rule('s'), 30);
+        club.week(1);
+        Check.due("the bid counted", club.look(1, 6), 30);
+        Check.due("cash there", club.beside(0, 0), 40);
+        Check.due("cash", club.club(0), 10);
+    }
+}
