@@ -623,7 +623,10 @@ public final class BuildingClub {
             return sum;
         }
 
-        /** Makes next week one of THE END's: all can pay, all is SEEN, no LOT and no BID. */
+        /**
+         * Makes next week one of THE END's: all can pay, no LOT, no BID. Whether a HOUSE is SEEN
+         * is left as it is: STAGES come out of what is HELD, and draws ask for CASH alone.
+         */
         void grantPlenty() {
             lot = 0;
             for (int m = 0; m < size; m++) {
@@ -632,10 +635,26 @@ public final class BuildingClub {
                 if (member.isIn) {
                     member.credit = Math.max(member.credit, member.owes(next));
                 }
-                if (member.house.canBeSeen()) {
-                    member.house.isSeen = true;
-                }
             }
+        }
+
+        /** In a week of plenty with nothing to pay, CASH but grows: such weeks go by at once. */
+        void skipWeeksOfSaving(int lastWeek) {
+            long dues = 0;
+            for (int m = 0; m < size; m++) {
+                Member member = members[m];
+                if (member.due > 0 || member.house.lacks > 0) {
+                    return;
+                }
+                dues += member.isIn ? member.owes(next) : 0;
+            }
+            long missing = next.number[Rules.PRICE] - cash;
+            if (dues < 1 || missing < 1) {
+                return;
+            }
+            long weeks = Math.min((missing - 1) / dues, lastWeek - week);
+            cash += weeks * dues;
+            week += (int) weeks;
         }
 
         boolean passWeeks(int n) {
@@ -848,7 +867,7 @@ public final class BuildingClub {
 
     /** Looks ahead to THE END in a ledger of its own. */
     private static final class Outlook {
-        static final int MOST_WEEKS = 2000;
+        static final int FURTHEST = 2000;
 
         private final Ledger trial = new Ledger();
 
@@ -857,12 +876,14 @@ public final class BuildingClub {
                 return now.week;
             }
             trial.copyFrom(now);
-            for (int i = 0; i < MOST_WEEKS; i++) {
+            int lastWeek = now.week + FURTHEST;
+            for (int i = 0; i < FURTHEST && trial.week < lastWeek; i++) {
                 trial.grantPlenty();
                 trial.passWeeks(1);
                 if (trial.areAllHoused()) {
                     return trial.week;
                 }
+                trial.skipWeeksOfSaving(lastWeek);
             }
             return NONE;
         }

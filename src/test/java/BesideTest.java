@@ -7,6 +7,9 @@ public final class BesideTest {
         whatCannotBeDone();
         voteNotCarriedThere();
         voteRefusedThenStaysOut();
+        oneReplayBehindAnother();
+        lackOfAnotherReplay();
+        leaversAheadOfWeekOne();
         endThere();
         changesNothing();
         Check.end();
@@ -112,6 +115,73 @@ public final class BesideTest {
         club.week(1);
         Check.due("as at first", club.beside(0, 10), 960);
         Check.due("calls that were done", club.count(6), 6);
+    }
+
+    /** Beside vote 1 a house lacks something; nothing of that is left beside vote 0. */
+    private static void oneReplayBehindAnother() {
+        BuildingClub club = Check.club("h40;g2;s20;r0;f0", 0, 1, 1);
+        Check.vote(club, 3, "h40;g2;s20;r0;f1");
+        club.pay(0, 20);
+        club.pay(1, 20);
+        club.week(1);
+        club.seen(0);
+        club.week(1);
+        club.fail(0);
+        Check.vote(club, 3, "h9999");
+        club.pay(0, 60);
+        club.pay(1, 60);
+        Check.due("it lacks", club.look(0, 7), 20);
+        Check.due("without 0 it has a house", club.beside(0, 1), 1);
+        Check.due("and no cash", club.beside(0, 0), 0);
+        Check.due("without 1 too", club.beside(1, 1), 1);
+        Check.due("without 2 too", club.beside(2, 0), 0);
+        club.week(1);
+        Check.due("51 and 41, less 20", club.beside(0, 0), 51 + 41 - 20);
+        Check.due("50 and 40, less 20", club.beside(1, 0), 50 + 40 - 20);
+        Check.due("41 and 41, less a house", club.beside(2, 0), 41 + 41 - 40 - 20);
+        Check.due("again without 0", club.beside(0, 0), 51 + 41 - 20);
+        Check.due("again without 1", club.beside(1, 0), 50 + 40 - 20);
+        BuildingClub house = Check.club("h10;g2", 100, 1);
+        Check.vote(house, 1, "h20;g2");
+        house.week(1);
+        house.seen(0);
+        house.week(1);
+        Check.vote(house, 1, "h20;s50");
+        house.week(1);
+        house.fail(0);
+        Check.due("without 1 a house of 10", house.beside(1, 0), 10 + 30 - 5);
+        Check.due("without 2 a house of 20", house.beside(2, 0), 30 + 30 - 10);
+        Check.due("without 0", house.beside(0, 0), 30 - 10);
+    }
+
+    private static void lackOfAnotherReplay() {
+        BuildingClub club = Check.club("h80;g2;s20;r0;f0", 40, 1, 1);
+        Check.vote(club, 3, "h80;g2;s20;r0;f0");
+        club.week(2);
+        club.seen(0);
+        club.week(1);
+        club.fail(0);
+        Check.due("it lacks", club.look(0, 7), 40);
+        for (int k = 0; k < 4; k++) {
+            Check.due("a house without either vote", club.beside(k % 2, 1), 1);
+        }
+    }
+
+    private static void leaversAheadOfWeekOne() {
+        BuildingClub club = Check.club(1, 1);
+        club.pay(0, 100);
+        club.pay(1, 400);
+        club.leave(0);
+        Check.vote(club, 2, "q0;s30");
+        Check.vote(club, 2, "q1;s40");
+        club.week(3);
+        Check.due("without 0", club.beside(0, 0), 100 + 120);
+        Check.due("without 1: not got yet", club.beside(1, 0), 100 + 90);
+        Check.due("without 0: not got yet", club.beside(0, 0), 100 + 120);
+        club.week(1);
+        Check.due("without 1: got", club.beside(1, 0), 120);
+        Check.due("without 0: got", club.beside(0, 0), 160);
+        Check.due("got", club.look(0, 11), 100);
     }
 
     private static void endThere() {

@@ -78,6 +78,19 @@ public final class EndTest {
         late.week(1);
         late.leave(1);
         Check.due("the leaver's week comes later", late.end(), 4);
+        BuildingClub poor = Check.club("s100;h100;q0;l100;f0", 100, 2, 1, 1);
+        poor.pay(0, 100);
+        poor.week(1);
+        Check.vote(poor, 7, "s10;r0;h400;q0;l100;f0");
+        poor.leave(1);
+        poor.leave(2);
+        poor.pay(0, 20);
+        poor.week(1);
+        Check.due("two leavers got 100 each", poor.club(6), 200);
+        Check.due("all who are in have one", poor.end(), 2);
+        poor.member(3);
+        // 120 of 400 in hand, and 50 a week.
+        Check.due("a member who comes later", poor.end(), 2 + 6);
     }
 
     private static void whatAHouseLacks() {
@@ -91,6 +104,16 @@ public final class EndTest {
         club.fail(0);
         Check.due("it lacks", club.look(0, 7), 50);
         Check.due("what it lacks is taken", club.end(), 6);
+        BuildingClub slow = Check.club("h1000;g2;s500;r0;f0", 500, 1, 1);
+        slow.week(1);
+        slow.seen(0);
+        Check.vote(slow, 3, "h2000;g2;s5;r0;f0");
+        slow.week(1);
+        slow.fail(0);
+        Check.due("it lacks", slow.look(0, 7), 500);
+        Check.due("arrears of 5 each", slow.look(1, 3), 5);
+        // 20, then 10 a week: 500 for the house that lacks it, and 2000 for the other.
+        Check.due("what it lacks is taken long before", slow.end(), 2 + 1 + 248);
     }
 
     private static void numbersAndBidsDoNotCount() {

@@ -132,6 +132,15 @@ public final class RulesTextTest {
         Check.due("the same text, carried", club.vote(5, 3), 0);
         Check.due("s", club.rule('s'), 30);
         Check.due("a byte of an empty tape", club.vote(5, 1), -1);
+        club.leave(0);
+        Check.feed(club, "s40");
+        Check.due("number 0 is not in", club.vote(1, 3), -1);
+        Check.due("number 0 is not in, with others", club.vote(5, 3), -1);
+        Check.due("the last number is", club.vote(4, 3), 1);
+        club.leave(2);
+        Check.feed(club, "s50");
+        Check.due("the last number is not in", club.vote(4, 3), -1);
+        Check.due("nobody is in", club.vote(0, 3), -2);
     }
 
     private static void inForceFromNextWeek() {
