@@ -86,9 +86,9 @@ public final class BuildingClub {
             case 0: return ledger.cash;
             case 1: return ledger.toBuilder;
             case 2: return ledger.fines;
-            case 3: return ledger.creditsTogether();
-            case 4: return ledger.heldTogether();
-            case 5: return ledger.dueTogether();
+            case 3: return ledger.together(Member.CREDIT);
+            case 4: return ledger.together(Member.HELD);
+            case 5: return ledger.together(Member.DUE);
             case 6: return ledger.toLeavers;
             case 7: return ledger.paidIn;
             default: return NONE;
@@ -386,6 +386,10 @@ public final class BuildingClub {
 
     /** A MEMBER, IN or gone. */
     private static final class Member {
+        static final int CREDIT = 2;
+        static final int HELD = 6;
+        static final int DUE = 10;
+
         final House house = new House();
         int shares;
         boolean isIn;
@@ -443,15 +447,15 @@ public final class BuildingClub {
             switch (what) {
                 case 0: return shares;
                 case 1: return isIn ? 1 : 0;
-                case 2: return credit;
+                case CREDIT: return credit;
                 case 3: return arrears;
                 case 4: return paid;
                 case 5: return hasHouse() ? house.stagesPaid : NONE;
-                case 6: return house.held;
+                case HELD: return house.held;
                 case 7: return house.lacks;
                 case 8: return house.drawWeek;
                 case 9: return bid;
-                case 10: return due;
+                case DUE: return due;
                 case 11: return got;
                 case 12: return hasHouse() ? house.stages : NONE;
                 default: return NONE;
@@ -599,26 +603,11 @@ public final class BuildingClub {
             return sum;
         }
 
-        long creditsTogether() {
+        /** The sum of what each MEMBER tells, by the document's number for it. */
+        long together(int what) {
             long sum = 0;
             for (int m = 0; m < size; m++) {
-                sum += members[m].credit;
-            }
-            return sum;
-        }
-
-        long heldTogether() {
-            long sum = 0;
-            for (int m = 0; m < size; m++) {
-                sum += members[m].house.held;
-            }
-            return sum;
-        }
-
-        long dueTogether() {
-            long sum = 0;
-            for (int m = 0; m < size; m++) {
-                sum += members[m].due;
+                sum += members[m].tell(what);
             }
             return sum;
         }
