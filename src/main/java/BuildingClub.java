@@ -105,21 +105,16 @@ public final class BuildingClub {
     }
 
     public long beside(int k, int what) {
-        boolean ofMember = what >= 10 && ledger.isMember(what - 10);
-        if (k < 0 || k >= history.votes || !(ofMember || what >= 0 && what <= 2)) {
+        if (k < 0 || k >= history.votes) {
             return NONE;
         }
         Ledger other = replay.without(k, history);
-        if (what == 0) {
-            return other.cash;
+        switch (what) {
+            case 0: return other.cash;
+            case 1: return other.drawn;
+            case 2: return outlook.weekOfLastDraw(other);
+            default: return other.isMember(what - 10) ? other.members[what - 10].credit : NONE;
         }
-        if (what == 1) {
-            return other.drawn;
-        }
-        if (what == 2) {
-            return outlook.weekOfLastDraw(other);
-        }
-        return other.isMember(what - 10) ? other.members[what - 10].credit : NONE;
     }
 
     public int count(int what) {

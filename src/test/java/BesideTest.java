@@ -1,12 +1,15 @@
 /** Promise 16: how things would stand without one of the votes. */
 public final class BesideTest {
     public static void main(String[] args) {
-        noSuchOnes();
+        noSuchVote();
+        noSuchWhat();
         withoutEachVote();
         laterCallsCount();
         whatCannotBeDone();
         voteNotCarriedThere();
         voteRefusedThenStaysOut();
+        refusedThoughItCouldBeDoneThere();
+        lotsAndBidsThere();
         oneReplayBehindAnother();
         lackOfAnotherReplay();
         leaversAheadOfWeekOne();
@@ -15,25 +18,48 @@ public final class BesideTest {
         Check.end();
     }
 
-    private static void noSuchOnes() {
+    private static void noSuchVote() {
+        Check.sentence("beside: NONE: no such VOTE");
         BuildingClub club = Check.club(1, 1);
         Check.due("no vote yet", club.beside(0, 0), -1);
         Check.vote(club, 1, "s30");
         Check.due("a vote that was not carried", club.beside(0, 0), -1);
+        Check.vote(club, 3, "s30;");
+        Check.due("a vote with a fault", club.beside(0, 0), -1);
         Check.vote(club, 3, "s30");
-        int[] votes = {-1, 1, Integer.MAX_VALUE, Integer.MIN_VALUE};
-        for (int k : votes) {
-            Check.due("beside(" + k + ", 0)", club.beside(k, 0), -1);
+        int[] wrong = {-1, 1, 400, Integer.MAX_VALUE, Integer.MIN_VALUE};
+        for (int k : wrong) {
+            for (int what = 0; what <= 2; what++) {
+                Check.due("beside(" + k + ", " + what + ")", club.beside(k, what), -1);
+            }
+            Check.due("beside(" + k + ", 10)", club.beside(k, 10), -1);
         }
-        int[] others = {-1, 3, 9, 12, 22, Integer.MAX_VALUE, Integer.MIN_VALUE};
-        for (int what : others) {
+        Check.vote(club, 3, "s40");
+        Check.due("the first", club.beside(0, 0), 0);
+        Check.due("the last", club.beside(1, 0), 0);
+        Check.due("one behind the last", club.beside(2, 0), -1);
+    }
+
+    private static void noSuchWhat() {
+        Check.sentence("beside: NONE: others");
+        BuildingClub club = Check.club("s30", 7, 1, 1);
+        int[] wrong = {-1, 3, 4, 9, 12, 13, 21, 22, 23, Integer.MAX_VALUE, Integer.MIN_VALUE,
+            Integer.MIN_VALUE + 10, Integer.MIN_VALUE + 12};
+        for (int what : wrong) {
             Check.due("beside(0, " + what + ")", club.beside(0, what), -1);
         }
-        Check.due("beside(0, 10)", club.beside(0, 10), 0);
-        Check.due("beside(0, 11)", club.beside(0, 11), 0);
+        Check.due("cash", club.beside(0, 0), 0);
+        Check.due("houses", club.beside(0, 1), 0);
+        Check.due("credit of number 0", club.beside(0, 10), 7);
+        Check.due("credit of number 1", club.beside(0, 11), 7);
+        club.leave(1);
+        Check.due("of a leaver", club.beside(0, 11), 0);
+        club.member(1);
+        Check.due("of number 2, who has come", club.beside(0, 12), 0);
     }
 
     private static void withoutEachVote() {
+        Check.sentence("BESIDE a VOTE: how things would stand if it had not been CARRIED");
         BuildingClub club = Check.club(1, 1);
         club.pay(0, 1000);
         club.pay(1, 900);
@@ -54,6 +80,7 @@ public final class BesideTest {
     }
 
     private static void laterCallsCount() {
+        Check.sentence("all that was done [..] is done again in its order without it");
         BuildingClub club = Check.club("s30", 100, 1);
         Check.due("ahead of a week", club.beside(0, 10), 100);
         club.week(1);
@@ -74,6 +101,7 @@ public final class BesideTest {
     }
 
     private static void whatCannotBeDone() {
+        Check.sentence("what could not be done then is passed over");
         BuildingClub club = Check.club("h40;g2", 200, 1, 1);
         club.week(1);
         Check.due("seen", club.seen(0), true);
@@ -94,6 +122,7 @@ public final class BesideTest {
 
     /** Number 0 has a house beside vote 0, so that it can't leave there. */
     private static void voteNotCarriedThere() {
+        Check.sentence("what could not be done then is passed over (a VOTE)");
         BuildingClub club = Check.club("h9999;s20", 1000, 3, 2);
         club.week(6);
         club.leave(0);
@@ -106,6 +135,7 @@ public final class BesideTest {
     }
 
     private static void voteRefusedThenStaysOut() {
+        Check.sentence("(what was refused then is not)");
         BuildingClub club = Check.club(2, 2);
         club.pay(0, 1000);
         club.pay(1, 1000);
@@ -117,8 +147,29 @@ public final class BesideTest {
         Check.due("calls that were done", club.count(6), 6);
     }
 
+    /** Each call that was refused could be done beside vote 0, and is not. */
+    private static void refusedThoughItCouldBeDoneThere() {
+        Check.sentence("all that was done (what was refused then is not) is done again");
+        BuildingClub club = Check.club("h9999", 200, 1, 1);
+        Check.vote(club, 3, "h9999");
+        Check.vote(club, 3, "h40");
+        Check.vote(club, 3, "h9999");
+        club.week(1);
+        Check.due("seen", club.seen(0), false);
+        club.week(1);
+        Check.due("fail", club.fail(0), false);
+        Check.due("a house beside the last vote", club.beside(3, 1), 2);
+        Check.due("50 and 40 of cash, less two houses, nothing more", club.beside(3, 0), 40 + 50 - 80);
+        BuildingClub house = Check.club("h40", 200, 1, 1);
+        house.week(1);
+        Check.due("leave with a house", house.leave(0), false);
+        house.week(1);
+        Check.due("beside the vote it has not left", house.beside(0, 10), 160);
+    }
+
     /** Beside vote 1 a house lacks something; nothing of that is left beside vote 0. */
     private static void oneReplayBehindAnother() {
+        Check.sentence("BESIDE one VOTE, then BESIDE another");
         BuildingClub club = Check.club("h40;g2;s20;r0;f0", 0, 1, 1);
         Check.vote(club, 3, "h40;g2;s20;r0;f1");
         club.pay(0, 20);
@@ -155,6 +206,7 @@ public final class BesideTest {
     }
 
     private static void lackOfAnotherReplay() {
+        Check.sentence("BESIDE two VOTES, a HOUSE that LACKS something");
         BuildingClub club = Check.club("h80;g2;s20;r0;f0", 40, 1, 1);
         Check.vote(club, 3, "h80;g2;s20;r0;f0");
         club.week(2);
@@ -168,6 +220,7 @@ public final class BesideTest {
     }
 
     private static void leaversAheadOfWeekOne() {
+        Check.sentence("BESIDE two VOTES, a leaver ahead of WEEK 1");
         BuildingClub club = Check.club(1, 1);
         club.pay(0, 100);
         club.pay(1, 400);
@@ -184,7 +237,29 @@ public final class BesideTest {
         Check.due("got", club.look(0, 11), 100);
     }
 
+    private static void lotsAndBidsThere() {
+        Check.sentence("all that was done is done again: numbers, BIDS, STAGES, leavers");
+        BuildingClub club = Check.club("b1;h40;g2", 300, 1, 1, 1);
+        club.bid(2, 20);
+        club.bid(1, 9);
+        club.lot(1);
+        Check.vote(club, 7, "h60;g1;b1");
+        club.week(1);
+        Check.due("by bids, of 60", club.look(2, 6), 40);
+        Check.due("nothing was done beside it that was not", club.beside(1, 1), 1);
+        Check.due("20 of a house of 40 came back there", club.beside(1, 12), 280 + 6);
+        Check.due("without the first as it is", club.beside(0, 12), 280 + 6);
+        Check.due("cash there", club.beside(1, 0), 60 - 40 + 2);
+        club.seen(2);
+        Check.due("leave", club.leave(0), true);
+        club.week(1);
+        Check.due("the leaver has no credit there", club.beside(1, 10), 0);
+        Check.due("houses there", club.beside(1, 1), 2);
+        Check.due("a second vote is done there", club.beside(0, 1), club.count(3));
+    }
+
     private static void endThere() {
+        Check.sentence("2 THE END [..] (2: there is none)");
         BuildingClub club = Check.club("s1;h9999", 0, 1);
         Check.due("there is none", club.end(), -1);
         Check.due("beside it there is one", club.beside(0, 2), 30);
@@ -195,6 +270,7 @@ public final class BesideTest {
     }
 
     private static void changesNothing() {
+        Check.sentence("BESIDE a VOTE is asked, and nothing changes");
         BuildingClub club = Check.club("b1;h50;s30", 200, 1, 1);
         club.bid(1, 20);
         club.lot(1);

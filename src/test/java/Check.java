@@ -5,15 +5,36 @@ import java.util.Arrays;
 final class Check {
     private static int wrong = 0;
     private static int asked = 0;
+    private static int sentences = 0;
+    private static int askedBehindSentence = 0;
+    private static String sentence = "";
 
     private Check() {
+    }
+
+    /** The words of the document that the answers from here on belong to; each has some. */
+    static void sentence(String words) {
+        endSentence();
+        sentence = words;
+        sentences++;
+        askedBehindSentence = asked;
+    }
+
+    private static void endSentence() {
+        if (sentences > 0 && asked == askedBehindSentence) {
+            tellWrong("nothing was asked");
+        }
+    }
+
+    private static void tellWrong(String what) {
+        wrong++;
+        System.out.println((sentence.isEmpty() ? "" : "[" + sentence + "] ") + what);
     }
 
     static void due(String call, long got, long want) {
         asked++;
         if (got != want) {
-            wrong++;
-            System.out.println(call + " answered " + got + ", due is " + want);
+            tellWrong(call + " answered " + got + ", due is " + want);
         }
     }
 
@@ -24,13 +45,14 @@ final class Check {
     static void due(String what, String got, String want) {
         asked++;
         if (!got.equals(want)) {
-            wrong++;
-            System.out.println(what + ": there is '" + got + "', due is '" + want + "'");
+            tellWrong(what + ": there is '" + got + "', due is '" + want + "'");
         }
     }
 
     static void end() {
-        System.out.println(asked + " answers, " + wrong + " not as due");
+        endSentence();
+        String to = sentences == 0 ? "" : " to " + sentences + " sentences";
+        System.out.println(asked + " answers" + to + ", " + wrong + " not as due");
         if (wrong != 0 || asked == 0) {
             System.exit(1);
         }
