@@ -13,6 +13,7 @@ public final class BesideTest {
         oneReplayBehindAnother();
         lackOfAnotherReplay();
         leaversAheadOfWeekOne();
+        askedInAnyOrder();
         endThere();
         changesNothing();
         Check.end();
@@ -203,6 +204,70 @@ public final class BesideTest {
         Check.due("without 1 a house of 10", house.beside(1, 0), 10 + 30 - 5);
         Check.due("without 2 a house of 20", house.beside(2, 0), 30 + 30 - 10);
         Check.due("without 0", house.beside(0, 0), 30 - 10);
+    }
+
+    /** By vote 2 number 1 has a house at once, by vote 1 number 0; by vote 0 it takes some weeks. */
+    private static BuildingClub fourVotes(boolean aWeekLater) {
+        BuildingClub club = Check.club(1, 1, 2, 1);
+        for (int m = 0; m < 3; m++) {
+            club.pay(m, 900);
+        }
+        club.pay(3, 50);
+        if (aWeekLater) {
+            club.week(1);
+        }
+        Check.vote(club, 15, "h300;g4;b1;q0;f0");
+        Check.vote(club, 15, "h60;g4;q1;f0");
+        Check.vote(club, 15, "h60;g4;b1;q1;f0");
+        club.bid(1, 9);
+        club.week(1);
+        club.seen(1);
+        club.week(1);
+        club.seen(1);
+        club.week(2);
+        club.fail(1);
+        club.fail(1);
+        club.seen(1);
+        club.week(1);
+        club.seen(1);
+        Check.vote(club, 15, "h999;q0");
+        club.bid(0, 20);
+        club.lot(3);
+        return club;
+    }
+
+    private static void later(BuildingClub club) {
+        club.week(1);
+        club.leave(3);
+        club.leave(0);
+        club.fail(1);
+        club.week(2);
+        club.member(3);
+        club.lot(7);
+    }
+
+    private static String told(BuildingClub club, int k) {
+        StringBuilder text = new StringBuilder();
+        for (int what = 0; what <= 14; what++) {
+            text.append(club.beside(k, what)).append(' ');
+        }
+        return text.toString();
+    }
+
+    private static void askedInAnyOrder() {
+        Check.sentence("BESIDE a VOTE: nothing is left of what was asked before");
+        for (int pair = 0; pair < 32; pair++) {
+            int j = pair / 8;
+            int k = pair / 2 % 4;
+            BuildingClub club = fourVotes(pair % 2 == 1);
+            BuildingClub fresh = fourVotes(pair % 2 == 1);
+            told(club, j);
+            Check.due("beside " + k + " behind " + j, told(club, k), told(fresh, k));
+            later(club);
+            told(club, j);
+            later(fresh);
+            Check.due("beside " + k + " behind " + j + ", later", told(club, k), told(fresh, k));
+        }
     }
 
     private static void lackOfAnotherReplay() {

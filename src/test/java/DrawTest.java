@@ -234,6 +234,15 @@ public final class DrawTest {
         bids.week(1);
         Check.due("nobody, by bids", winner(bids, 2), -1);
         Check.due("cash stays", bids.club(0), 40);
+        BuildingClub full = Check.club("h10;f0", 20, 1, 1, 1, 1, 1, 1, 1, 1, 1, 1, 1, 1);
+        full.week(1);
+        full.lot(11);
+        full.week(1);
+        Check.due("nobody of twelve, all with arrears", full.count(3), 1);
+        Check.due("cash stays", full.club(0), 230);
+        Check.vote(full, 0xfff, "h10;b1");
+        full.week(1);
+        Check.due("nor by bids", full.count(3), 1);
         BuildingClub left = Check.club("h10", 100, 1);
         left.leave(0);
         left.week(1);
@@ -270,6 +279,11 @@ public final class DrawTest {
         club.week(1);
         Check.due("one with a house has no part", winner(club, 3), 1);
         Check.due("and its bid stays", club.look(0, 9), 50);
+        BuildingClub full = Check.club("h40;b1", 100, 1, 1, 1, 1, 1, 1, 1, 1, 1, 1, 1, 1);
+        full.bid(11, 3);
+        full.bid(10, 2);
+        full.week(1);
+        Check.due("the last of twelve", winner(full, 1), 11);
         BuildingClub others = Check.club("b1;h40;s20", 0, 1, 1, 1, 1);
         others.bid(0, 20);
         others.bid(3, 20);

@@ -18,6 +18,7 @@ public final class LeaversTest {
         oneMakesAllBehindWait();
         notYetDueDoesNotBlock();
         nothingIsDue();
+        allTwelve();
         Check.end();
     }
 
@@ -324,5 +325,23 @@ public final class LeaversTest {
         Check.due("it got nothing", club.look(0, 11), 0);
         Check.due("and makes nobody wait", club.look(2, 11), 16 + 80);
         Check.due("due to leavers", club.club(5), 0);
+    }
+
+    private static void allTwelve() {
+        Check.sentence("MEMBERS 0 to 11: all of them leave");
+        BuildingClub club = Check.club("q0;l100;s1", 10, 1, 1, 1, 1, 1, 1, 1, 1, 1, 1, 1, 1);
+        club.week(1);
+        for (int m = 11; m >= 0; m--) {
+            Check.due("leave(" + m + ")", club.leave(m), true);
+        }
+        Check.due("those in", club.count(1), 0);
+        Check.due("due to leavers", club.club(5), 120);
+        club.week(1);
+        for (int m = 0; m < 12; m++) {
+            Check.due("got by " + m, club.look(m, 11), 10);
+        }
+        Check.due("cash", club.club(0), 0);
+        Check.due("the end", club.end(), 2);
+        Check.due("cash without the vote: waits to week 5", club.beside(0, 0), 120);
     }
 }
