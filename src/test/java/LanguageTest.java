@@ -1,10 +1,15 @@
 import java.io.IOException;
+import java.lang.reflect.Field;
+import java.lang.reflect.Method;
+import java.lang.reflect.Modifier;
 import java.nio.file.Files;
 import java.nio.file.Path;
+import java.util.Set;
+import java.util.TreeSet;
 import java.util.regex.Matcher;
 import java.util.regex.Pattern;
 
-/** What of LANGUAGE.md can be seen in the source's words; run from the root of the project. */
+/** What of LANGUAGE.md can be seen in the source's words and in its classes; run from the root of the project. */
 public final class LanguageTest {
     private static final Path SOURCE = Path.of("src/main/java/BuildingClub.java");
     private static final String[] FORBIDDEN = {
@@ -16,6 +21,7 @@ public final class LanguageTest {
     };
     private static final int MOST_LINES = 60;
     private static final int MOST_CLASSES = 12;
+    private static final int MOST_FIELDS = 20;
 
     public static void main(String[] args) throws IOException {
         String code = withoutCommentsAndTexts(Files.readString(SOURCE));
@@ -26,6 +32,8 @@ public final class LanguageTest {
         staticFieldsAreFinal(code);
         nestedClasses(code);
         methods(code);
+        fieldsOfEachClass();
+        namesOfTheFace();
         Check.end();
     }
 
@@ -65,6 +73,38 @@ public final class LanguageTest {
             Check.due(matcher.group(2) + " has few parameters", parameters <= 7, true);
         }
         Check.due("methods were found", methods > 40, true);
+    }
+
+    private static void fieldsOfEachClass() {
+        for (Class<?> one : BuildingClub.class.getDeclaredClasses()) {
+            int fields = 0;
+            for (Field field : one.getDeclaredFields()) {
+                fields += Modifier.isStatic(field.getModifiers()) ? 0 : 1;
+            }
+            Check.due(one.getSimpleName() + " has " + fields + " fields: some twenty", fields <= MOST_FIELDS, true);
+        }
+    }
+
+    /** Asked of the classes inside as well, so that a name means one thing in the whole file. */
+    private static void namesOfTheFace() {
+        Set<String> face = new TreeSet<>();
+        for (Method method : BuildingClub.class.getDeclaredMethods()) {
+            if (Modifier.isPublic(method.getModifiers())) {
+                face.add(method.getName());
+            }
+        }
+        Check.due("public names", face.size(), 16);
+        namesBeside(face, BuildingClub.class);
+        for (Class<?> one : BuildingClub.class.getDeclaredClasses()) {
+            namesBeside(face, one);
+        }
+    }
+
+    private static void namesBeside(Set<String> face, Class<?> one) {
+        for (Method method : one.getDeclaredMethods()) {
+            boolean twice = !Modifier.isPublic(method.getModifiers()) && face.contains(method.getName());
+            Check.due(one.getSimpleName() + "." + method.getName() + " bears a public name", twice, false);
+        }
     }
 
     private static int endOf(String code, int behindBrace) {

@@ -24,6 +24,7 @@ public final class StagesTest {
         takenWhenCashIsNotBelow();
         takenBehindTheDraw();
         takenByNumbers();
+        eachHouseForItself();
         Check.end();
     }
 
@@ -385,6 +386,33 @@ public final class StagesTest {
         Check.due("the lower number", both.look(0, 7), 0);
         Check.due("and the other, out of the rest", both.look(2, 7), 0);
         Check.due("no cash is left", both.club(0), 0);
+    }
+
+    private static void eachHouseForItself() {
+        Check.sentence("the HOUSE stands still till CASH is not below that");
+        BuildingClub club = Check.club("h120;g2;s40;r0;f0", 40, 1, 1, 1);
+        club.week(1);
+        Check.vote(club, 7, "h30;g3;s10;r0;f0");
+        for (int m = 0; m < 3; m++) {
+            club.pay(m, 10);
+        }
+        club.lot(1);
+        club.week(1);
+        club.seen(0);
+        club.seen(2);
+        Check.vote(club, 7, "h999;s10;r0;f0");
+        club.week(1);
+        club.fail(0);
+        club.fail(2);
+        Check.due("the lower number lacks", club.look(0, 7), 60);
+        Check.due("the other lacks", club.look(2, 7), 10);
+        club.pay(1, 20);
+        club.week(1);
+        Check.due("20 of cash are below 60", club.look(0, 7), 60);
+        Check.due("and not below 10", club.look(2, 7), 0);
+        Check.due("cash", club.club(0), 10);
+        Check.due("the one stands still", club.seen(0), false);
+        Check.due("the other does not", club.seen(2), true);
     }
 
     /** Houses of 0 and 2 lack 30 each, number 2's the longer one; number 1 has arrears of 30. */
