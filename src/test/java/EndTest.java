@@ -14,8 +14,10 @@ public final class EndTest {
         leaversAreStillPaid();
         aPennyForALeaver();
         leaverWhoWaits();
+        leaverWhoWaitsToTheLast();
         whatAHouseLacksIsStillTaken();
         aPennyThatAHouseLacks();
+        aPennyThatADrawLeftLacking();
         changesNothing();
         Check.end();
     }
@@ -196,6 +198,22 @@ public final class EndTest {
         Check.due("what is due is paid ahead of a dear one", club.end(), 6 + 10);
     }
 
+    private static void leaverWhoWaitsToTheLast() {
+        Check.sentence("THE END, within 2000 WEEKS, in all of which a leaver waits for CASH");
+        BuildingClub club = Check.club("s1000;r0;f0;h9999;l100;q0", 0, 1, 5);
+        club.pay(0, 2000);
+        club.pay(1, 10000);
+        club.week(2);
+        Check.vote(club, 3, "s1;r0;f0;h8001");
+        club.leave(1);
+        club.member(2);
+        Check.due("cash", club.club(0), 2001);
+        Check.due("due", club.look(1, 10), 10000);
+        Check.due("2001 and 3 a week", club.end(), 2 + 2000);
+        Check.vote(club, 5, "s1;r0;f0;h8002");
+        Check.due("a penny too dear", club.end(), -1);
+    }
+
     private static void whatAHouseLacksIsStillTaken() {
         Check.sentence("THE END, with a HOUSE that LACKS something");
         BuildingClub club = Check.club("h100;g2;s50;r0;f0", 50, 1, 1);
@@ -242,6 +260,26 @@ public final class EndTest {
         Check.due("30 of the next week are enough for 21", club.end(), 4);
         Check.vote(club, 3, "h40;s5;r0;f0");
         Check.due("30 less a penny, 10 a week: not 40 in the week behind", club.end(), 6);
+    }
+
+    private static void aPennyThatADrawLeftLacking() {
+        Check.sentence("THE END, with a HOUSE that LACKS a penny behind a DRAW that took all CASH");
+        BuildingClub club = Check.club("h10;g5;b1;s5;r0;f0", 0, 1, 1, 3);
+        club.bid(0, 5);
+        club.pay(0, 5);
+        club.pay(1, 5);
+        club.week(1);
+        club.seen(0);
+        club.week(1);
+        club.fail(0);
+        Check.due("no cash", club.club(0), 0);
+        Check.due("it lacks a penny", club.look(0, 7), 1);
+        Check.due("arrears", club.look(0, 3) + club.look(1, 3) + club.look(2, 3), 40);
+        Check.vote(club, 7, "h80;s8;r0;f0");
+        // Week 3: 80, a house; week 4: 40 less the penny; week 5: 79.
+        Check.due("a penny below in week 5", club.end(), 6);
+        Check.vote(club, 7, "h79;s8;r0;f0");
+        Check.due("the penny is taken behind the draw of a house of 79", club.end(), 5);
     }
 
     private static void changesNothing() {
